@@ -33,6 +33,8 @@ public final class PromisesTest {
         advice();
         means();
         digests();
+        firstAndLast();
+        fullField();
         CHECK.end();
     }
 
@@ -716,6 +718,67 @@ public final class PromisesTest {
         field.pull(5, 4);
         field.pull(0, 4);
         CHECK.due("dry pegs alone", 0.0, field.mean());
+    }
+
+    /** What stands at the first spot, row, column and depth counts as much as elsewhere. */
+    private static void firstAndLast() {
+        DowserPegs field = dry(1);
+        field.vein(0, 0, 0, 0, 1, 5);
+        field.vein(19, 19, 19, 19, 1, 7);
+        due("first and last spot are wet", 2, field.count(5));
+        pegAt(field, 0, 0);
+        due("the peg at the first spot is true", 1, field.told(0, 4));
+        due("true pegs", 1, field.count(6));
+        CHECK.due("mean at the first spot", 5.0, field.mean());
+        dueLine("the first row", field, 1, 0, 0);
+        pegAt(field, 19, 19);
+        due("the peg at the last spot is true", 2, field.told(0, 4));
+        due("true pegs", 2, field.count(6));
+        CHECK.due("mean at the first and the last spot", 6.0, field.mean());
+        field.pull(0, 0);
+        field.pull(19, 19);
+        pegAt(field, 0, 3, 0, 9);
+        dueLine("the first column", field, 2, 1, 0);
+        field.pull(0, 3);
+        field.pull(0, 9);
+        pegAt(field, 19, 0, 0, 1, 1, 0);
+        dueLine("a corner's diagonal is no other line", field, 2, 0, 0);
+        field.pit(0, 0);
+        field.bet(0, 0, 1, true);
+        refused("a second bet after one of 1 coin", field, STATE, () -> field.bet(0, 0, 1, true));
+        due("water 1 deep", 1, field.dig(0, 20));
+        DowserPegs second = new DowserPegs();
+        second.vein(1, 0, 1, 0, 1, 5);
+        second.dowser(4, 0);
+        dueBest("the second spot", second, 0, 1, 0, 20);
+    }
+
+    /** As many veins, dowsers and pits as there may be. */
+    private static void fullField() {
+        DowserPegs field = dry(4);
+        for (int i = 0; i < 6; i++) {
+            field.vein(0, i, 19, i, i + 1, 9);
+        }
+        field.dowser(9, 0);
+        // Over the last row of veins 81 / 6, beside the one above half of 81 / 5.
+        due("rod", 13 + 8, field.rod(4, 19, 5));
+        due("rod at the last spot", 0, field.rod(4, 19, 19));
+        field.setMark(21);
+        due("walk", 1, field.walk(4, 19, 5, 19, 19));
+        due("advise", 4, field.advise());
+        dueBest("full", field, 4, 0, 0, 81 + 20);
+        for (int i = 0; i < 10; i++) {
+            field.pit(i, i);
+            field.bet(4, i, 1 + i % 2, true);
+        }
+        due("in bets", 15, field.told(4, 5));
+        for (int i = 0; i < 10; i++) {
+            due("deep", i < 6 ? i + 1 : 20, field.dig(i, 20));
+        }
+        due("right", 6, field.told(4, 6));
+        due("wrong", 4, field.told(4, 7));
+        due("coins", 50 - 15 + 9, field.told(4, 2));
+        due("the field's", 6, field.count(7));
     }
 
     private static DowserPegs surveyed() {
