@@ -2,6 +2,7 @@
 final class Check {
     private int wrong = 0;
     private final String name;
+    private String sentence = "";
 
     Check(String name) {
         this.name = name;
@@ -9,6 +10,11 @@ final class Check {
 
     interface Call {
         void make();
+    }
+
+    /** The document's sentence that the checks from here on hold the class to. */
+    void sentence(String text) {
+        sentence = " [" + text + "]";
     }
 
     void due(String what, long want, long got) {
@@ -42,10 +48,31 @@ final class Check {
         fail(what + " throws nothing, due is " + want.getName());
     }
 
+    /** The call throws the exception, and whatever the calls tell and do then is as it would be without it. */
+    void refused(String what, Setup state, Class<? extends RuntimeException> want, Setup.Step call) {
+        isThrown(what, want, () -> call.on(state.make()));
+        unchanged(what, state, field -> swallow(() -> call.on(field)));
+    }
+
+    void unchanged(String what, Setup state, Setup.Step call) {
+        String difference = Everything.difference(state.told(), state.then(call).told());
+        if (difference != null) {
+            fail(state.text() + ", after " + what + ": " + difference);
+        }
+    }
+
+    private static void swallow(Call call) {
+        try {
+            call.make();
+        } catch (RuntimeException thrown) {
+            return;
+        }
+    }
+
     void fail(String text) {
         wrong++;
         if (wrong <= 50) {
-            System.out.println(name + ": " + text);
+            System.out.println(name + sentence + ": " + text);
         }
     }
 
