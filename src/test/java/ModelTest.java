@@ -1,17 +1,29 @@
-/** Runs of 512 calls on DowserPegs and on Model, chosen by a counted-up number: both must answer the same. */
+/**
+ * Runs of 512 calls on DowserPegs and on Model, chosen by a counted-up number: both must answer the same.
+ * Some runs keep to a few spots, where veins lie over each other; in some all coins are bet, and won.
+ */
 public final class ModelTest {
     private static final Check CHECK = new Check("ModelTest");
-    private static final int RUNS = 300;
+    private static final int RUNS = 500;
     private static final int CALLS = 512;
     private static final String[] OPS = {"vein", "dowser", "setMark", "walk", "pull", "pit", "bet", "dig", "spot", "rod",
         "told", "about", "count", "line", "would", "best", "advise", "mean", "digest"};
     /** How often each of OPS is called, in the long run. */
     private static final int[] WEIGHTS = {3, 3, 4, 10, 5, 4, 14, 8, 12, 8, 8, 8, 8, 6, 8, 4, 5, 4, 2};
 
-    private long seed;
+    /** So many columns, and rows, a narrow run has. */
+    private static final int NARROW = 4;
 
-    private ModelTest(long seed) {
-        this.seed = seed;
+    private long seed;
+    private final boolean narrow;
+    private final boolean bold;
+    private final int corner;
+
+    private ModelTest(int run) {
+        seed = run;
+        narrow = run % 3 == 1;
+        bold = run % 4 == 2;
+        corner = run % (20 - NARROW + 1);
     }
 
     public static void main(String[] args) {
@@ -39,6 +51,11 @@ public final class ModelTest {
             return below(2) == 0 ? Integer.MIN_VALUE : Integer.MAX_VALUE;
         }
         return least + below(most - least + 1);
+    }
+
+    private int place() {
+        int at = near(0, 19);
+        return narrow && at >= 0 && at <= 19 ? corner + at % NARROW : at;
     }
 
     private void compare(int run) {
@@ -75,8 +92,8 @@ public final class ModelTest {
     private int[] pickArgs(String op, Model model) {
         int d = near(0, Math.max(0, model.count(1) - 1));
         int p = near(0, Math.max(0, model.count(3) - 1));
-        int x = near(0, 19);
-        int y = near(0, 19);
+        int x = place();
+        int y = place();
         return switch (op) {
             case "vein" -> veinArgs(x, y);
             case "dowser" -> new int[] {near(0, 9), near(-3, 3)};
@@ -84,7 +101,7 @@ public final class ModelTest {
             case "walk" -> walkArgs(d, x, y);
             case "pull" -> pegSpot(model, x, y);
             case "pit" -> new int[] {x, below(3) == 0 ? x : y};
-            case "bet" -> new int[] {d, p, below(4) == 0 ? near(1, 99) : near(1, 15)};
+            case "bet" -> new int[] {d, p, stake(model, d)};
             case "dig" -> new int[] {p, below(2) == 0 ? near(1, 20) : near(1, 4)};
             case "spot" -> new int[] {x, y, near(0, 5)};
             case "rod" -> new int[] {d, x, y};
@@ -98,10 +115,17 @@ public final class ModelTest {
         };
     }
 
+    private int stake(Model model, int d) {
+        if (bold && d >= 0 && d < model.count(1) && model.told(d, 2) > 0) {
+            return near(1, Math.min(99, model.told(d, 2)));
+        }
+        return below(4) == 0 ? near(1, 99) : near(1, 15);
+    }
+
     private int[] veinArgs(int x, int y) {
         int long0 = below(20) - 10;
         int[][] ends = {{x + long0, y}, {x, y + long0}, {x + long0, y + long0}, {x + long0, y - long0},
-            {near(0, 19), near(0, 19)}};
+            {place(), place()}};
         int[] end = ends[below(5)];
         return new int[] {x, y, end[0], end[1], below(2) == 0 ? near(1, 20) : near(1, 4), near(1, 9)};
     }
@@ -109,7 +133,7 @@ public final class ModelTest {
     /** Mostly short walks, so that the 60 pegs are not all used up at once. */
     private int[] walkArgs(int d, int x, int y) {
         if (below(4) == 0) {
-            return new int[] {d, x, y, near(0, 19), near(0, 19)};
+            return new int[] {d, x, y, place(), place()};
         }
         return new int[] {d, x, y, x + below(5) - 2, y + below(5) - 2};
     }
